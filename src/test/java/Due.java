@@ -1,0 +1,83 @@
+/** Counts the answers that are not as due. */
+final class Due {
+    private static int wrong = 0;
+    private static int asked = 0;
+
+    private Due() {
+    }
+
+    static void is(String call, long got, long due) {
+        asked++;
+        if (got != due) {
+            report(call + " answered " + got + ", due is " + due);
+        }
+    }
+
+    static void holds(String what, boolean so) {
+        asked++;
+        if (!so) {
+            report(what + " does not hold");
+        }
+    }
+
+    /** The exact class counts: an exception of the machine is often a subclass of the due one. */
+    static void refused(String call, Class<? extends RuntimeException> due, Runnable act) {
+        asked++;
+        try {
+            act.run();
+        } catch (RuntimeException thrown) {
+            if (thrown.getClass() != due) {
+                report(call + " threw " + thrown + ", due is " + due.getSimpleName());
+            }
+            return;
+        }
+        report(call + " threw nothing, due is " + due.getSimpleName());
+    }
+
+    static void index(String call, Runnable act) {
+        refused(call, IndexOutOfBoundsException.class, act);
+    }
+
+    static void turn(String call, Runnable act) {
+        refused(call, IllegalStateException.class, act);
+    }
+
+    static void range(String call, Runnable act) {
+        refused(call, IllegalArgumentException.class, act);
+    }
+
+    static void meaning(String call, Runnable act) {
+        refused(call, UnsupportedOperationException.class, act);
+    }
+
+    /** A piece of the plan by all that piece() tells of it. */
+    static void piece(CutShears x, int k, int wanted, int begin, int steps, int isCut) {
+        is("piece(" + k + ", 0)", x.piece(k, 0), wanted);
+        is("piece(" + k + ", 1)", x.piece(k, 1), begin);
+        is("piece(" + k + ", 2)", x.piece(k, 2), steps);
+        is("piece(" + k + ", 3)", x.piece(k, 3), isCut);
+    }
+
+    static void end() {
+        System.out.println(asked + " checks, " + wrong + " wrong");
+        if (wrong != 0) {
+            System.exit(1);
+        }
+    }
+
+    private static void report(String text) {
+        wrong++;
+        if (wrong <= 40) {
+            System.out.println(text + "  (" + caller() + ")");
+        }
+    }
+
+    private static String caller() {
+        for (StackTraceElement at : new Throwable().getStackTrace()) {
+            if (!at.getClassName().equals("Due")) {
+                return at.getFileName() + ":" + at.getLineNumber();
+            }
+        }
+        return "?";
+    }
+}
