@@ -11,7 +11,7 @@ public final class BestPlanTest {
 
     public static void main(String[] args) {
         handMade();
-        longerIsNoBetter();
+        greatSums();
         everyPlanOfSmallRooms();
         Due.end();
     }
@@ -44,8 +44,8 @@ public final class BestPlanTest {
         Due.piece(shortest, 1, 0, 40, 60, 0);
     }
 
-    /** The greatest sums that there are: one step of loss still outweighs all ranks. */
-    private static void longerIsNoBetter() {
+    /** Sums as great as they get: a step of loss still outweighs all ranks, a rank all pieces. */
+    private static void greatSums() {
         CutShears x = new CutShears();
         x.want(1, 1, 9);
         x.want(200, 200, 0);
@@ -60,6 +60,14 @@ public final class BestPlanTest {
         Due.is("pieces()", y.pieces(), 1);
         y.crop(1, 0);
         Due.is("pieces()", y.pieces(), 99);
+
+        CutShears z = new CutShears();
+        z.want(200, 200, 0);
+        z.want(1, 1, 0);
+        z.want(101, 101, 1);
+        z.bar(200, 0);
+        Due.is("pieces(), one rank outweighs 99 pieces", z.pieces(), 100);
+        Due.piece(z, 99, 2, 99, 101, 0);
     }
 
     private static void everyPlanOfSmallRooms() {
