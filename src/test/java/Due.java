@@ -58,6 +58,35 @@ final class Due {
         is("piece(" + k + ", 3)", x.piece(k, 3), isCut);
     }
 
+    /** The whole plan: the loss, and of each piece what piece() tells of it. */
+    static void plan(CutShears x, int loss, int[]... pieces) {
+        is("loss()", x.loss(), loss);
+        is("pieces()", x.pieces(), pieces.length);
+        for (int k = 0; k < pieces.length && k < x.pieces(); k++) {
+            piece(x, k, pieces[k][0], pieces[k][1], pieces[k][2], pieces[k][3]);
+        }
+        index("a piece behind the last one", () -> x.piece(pieces.length, 0));
+    }
+
+    /**
+     * A refused call leaves everything as it was. What is hidden until the next planning (the length, the
+     * error) shows when the same crops are told again.
+     */
+    static void unchanged(CutShears x, int head, int tail, Class<? extends RuntimeException> due, Runnable act) {
+        String before = Shown.of(x);
+        refused("the call", due, act);
+        same("after the refusal", Shown.of(x), before);
+        x.crop(head, tail);
+        same("planned anew after the refusal", Shown.of(x), before);
+    }
+
+    static void same(String what, String got, String due) {
+        asked++;
+        if (!got.equals(due)) {
+            report(what + ": " + got + ", due is " + due);
+        }
+    }
+
     static void end() {
         System.out.println(asked + " checks, " + wrong + " wrong");
         if (wrong != 0) {
