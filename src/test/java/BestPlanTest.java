@@ -17,28 +17,28 @@ public final class BestPlanTest {
     }
 
     private static void handMade() {
-        CutShears loss = new CutShears();
+        TapedShears loss = new TapedShears();
         loss.want(60, 60, 9);
         loss.want(48, 48, 0);
         Due.is("loss(), the least loss goes before ranks", loss.loss(), 4);
 
-        CutShears ranks = new CutShears();
+        TapedShears ranks = new TapedShears();
         ranks.want(100, 100, 1);
         ranks.want(50, 50, 1);
         Due.is("pieces(), ranks go before the fewest", ranks.pieces(), 2);
 
-        CutShears fewest = new CutShears();
+        TapedShears fewest = new TapedShears();
         fewest.want(25, 25, 0);
         fewest.want(50, 50, 0);
         Due.is("pieces(), the fewest", fewest.pieces(), 2);
 
-        CutShears lowest = new CutShears();
+        TapedShears lowest = new TapedShears();
         lowest.want(60, 60, 3);
         lowest.want(40, 40, 3);
         Due.piece(lowest, 0, 0, 0, 60, 0);
         Due.piece(lowest, 1, 1, 60, 40, 0);
 
-        CutShears shortest = new CutShears();
+        TapedShears shortest = new TapedShears();
         shortest.want(40, 70, 0);
         Due.piece(shortest, 0, 0, 0, 40, 0);
         Due.piece(shortest, 1, 0, 40, 60, 0);
@@ -46,13 +46,13 @@ public final class BestPlanTest {
 
     /** Sums as great as they get: a step of loss still outweighs all ranks, a rank all pieces. */
     private static void greatSums() {
-        CutShears x = new CutShears();
+        TapedShears x = new TapedShears();
         x.want(1, 1, 9);
         x.want(200, 200, 0);
         x.bar(200, 0);
         Due.is("pieces()", x.pieces(), 200);
 
-        CutShears y = new CutShears();
+        TapedShears y = new TapedShears();
         y.want(2, 2, 9);
         y.want(199, 199, 0);
         y.bar(199, 0);
@@ -61,7 +61,7 @@ public final class BestPlanTest {
         y.crop(1, 0);
         Due.is("pieces()", y.pieces(), 99);
 
-        CutShears z = new CutShears();
+        TapedShears z = new TapedShears();
         z.want(200, 200, 0);
         z.want(1, 1, 0);
         z.want(101, 101, 1);
@@ -74,7 +74,7 @@ public final class BestPlanTest {
         int seed = 7;
         for (int round = 0; round < 400; round++) {
             wanted = new int[1 + round % 6][];
-            CutShears x = new CutShears();
+            TapedShears x = new TapedShears();
             for (int w = 0; w < wanted.length; w++) {
                 seed = next(seed);
                 int low = 2 + (seed >>> 8) % 7;
@@ -94,7 +94,7 @@ public final class BestPlanTest {
         return (seed * 1103515245 + 12345) & 0x7fffffff;
     }
 
-    private static void compare(CutShears x, int room) {
+    private static void compare(TapedShears x, int room) {
         bestCount = 0;
         bestLoss = room;
         bestRanks = 0;

@@ -11,20 +11,20 @@ public final class BladePromiseTest {
     }
 
     /** A plan whose one piece ends at a step of the bar. */
-    private static CutShears endingAt(int end) {
-        CutShears x = new CutShears();
+    private static TapedShears endingAt(int end) {
+        TapedShears x = new TapedShears();
         x.want(end, end, 0);
         x.bar(end, 0);
         return x;
     }
 
-    private static void time(CutShears x, int k, int perTurn, int turns, int thousandths) {
+    private static void time(TapedShears x, int k, int perTurn, int turns, int thousandths) {
         Due.is("blade(" + k + ", " + perTurn + ", 0)", x.blade(k, perTurn, 0), turns);
         Due.is("blade(" + k + ", " + perTurn + ", 1)", x.blade(k, perTurn, 1), thousandths);
     }
 
     private static void headIsWithIt() {
-        CutShears x = new CutShears();
+        TapedShears x = new TapedShears();
         x.want(20, 20, 0);
         x.crop(7, 0);
         time(x, 0, 9, 3, 0);
@@ -56,7 +56,7 @@ public final class BladePromiseTest {
     }
 
     private static void cutPiecesToo() {
-        CutShears x = new CutShears();
+        TapedShears x = new TapedShears();
         x.want(33, 33, 0);
         x.cut();
         time(x, 0, 10, 3, 300);
@@ -67,10 +67,10 @@ public final class BladePromiseTest {
     /** Looks for the time by trying thousandths, without the division that the class uses. */
     private static void everyEndAndTurn() {
         for (int end = 1; end <= 200; end++) {
-            CutShears x = endingAt(end);
+            TapedShears x = endingAt(end);
             for (int perTurn = 1; perTurn <= 1000; perTurn++) {
-                int turns = x.blade(0, perTurn, 0);
-                int part = x.blade(0, perTurn, 1);
+                int turns = x.look(TapedShears.BLADE, 0, perTurn, 0);
+                int part = x.look(TapedShears.BLADE, 0, perTurn, 1);
                 Due.holds("a part below 1,000", part >= 0 && part < 1000);
                 long off = 2000L * end - 2L * perTurn * (1000L * turns + part);
                 Due.holds("the nearest of " + end + " by " + perTurn, off >= -perTurn && off < perTurn);
@@ -79,7 +79,7 @@ public final class BladePromiseTest {
     }
 
     private static void refusals() {
-        CutShears x = new CutShears();
+        TapedShears x = new TapedShears();
         Due.index("blade(0, 1, 0)", () -> x.blade(0, 1, 0));
         x.want(50, 50, 0);
         for (int k : new int[] {-1, 2, Integer.MIN_VALUE, Integer.MAX_VALUE}) {

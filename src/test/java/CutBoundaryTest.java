@@ -40,6 +40,7 @@ public final class CutBoundaryTest {
         sumNoSuchLength();
         sideWithNotSoMany();
         sideBelowZero();
+        tellingChangesNothing();
         runOfFiveHundredAndTwelveCalls();
         Due.end();
     }
@@ -49,8 +50,8 @@ public final class CutBoundaryTest {
     }
 
     /** A bar of 200 pieces of one step each, of which some are cut. */
-    private static CutShears crumbs(int places, int cuts) {
-        CutShears x = new CutShears();
+    private static TapedShears crumbs(int places, int cuts) {
+        TapedShears x = new TapedShears();
         x.want(1, 1, 0);
         x.bed(places, 200);
         x.bar(200, 0);
@@ -58,29 +59,29 @@ public final class CutBoundaryTest {
         return x;
     }
 
-    private static void cut(CutShears x, int times) {
+    private static void cut(TapedShears x, int times) {
         for (int i = 0; i < times; i++) {
             x.cut();
         }
     }
 
     /** A plan whose one piece ends at a step of the bar. */
-    private static CutShears endingAt(int end) {
-        CutShears x = new CutShears();
+    private static TapedShears endingAt(int end) {
+        TapedShears x = new TapedShears();
         x.want(end, end, 0);
         x.bar(end, 0);
         return x;
     }
 
     private static void time(int end, int perTurn, int turns, int thousandths) {
-        CutShears x = endingAt(end);
+        TapedShears x = endingAt(end);
         Due.is("blade(0, " + perTurn + ", 0)", x.blade(0, perTurn, 0), turns);
         Due.is("blade(0, " + perTurn + ", 1)", x.blade(0, perTurn, 1), thousandths);
     }
 
     /** Promise 9: "Cuts the next piece: its place on the bed; -1 to the side." */
     private static void cutAnswersThePlace() {
-        CutShears x = crumbs(20, 0);
+        TapedShears x = crumbs(20, 0);
         for (int place = 0; place < 20; place++) {
             Due.is("cut()", x.cut(), place);
             Due.is("at()", x.at(place), place);
@@ -93,7 +94,7 @@ public final class CutBoundaryTest {
 
     /** Promise 9: "Turn: none is left to cut". */
     private static void cutWithNoneLeft() {
-        CutShears x = new CutShears();
+        TapedShears x = new TapedShears();
         Due.unchanged(x, 0, 0, TURN, x::cut);
         x.want(101, 101, 0);
         Due.unchanged(x, 0, 0, TURN, x::cut);
@@ -111,7 +112,7 @@ public final class CutBoundaryTest {
 
     /** Promise 9: "meaning: 300 were cut in all.": over bars, bundled ones and those at the side with them. */
     private static void cutThreeHundred() {
-        CutShears x = crumbs(1, 200);
+        TapedShears x = crumbs(1, 200);
         x.bundle(0, 1);
         x.bar(200, 0);
         cut(x, 99);
@@ -134,7 +135,7 @@ public final class CutBoundaryTest {
 
     /** Promise 9: none left to cut is looked at before the 300. */
     private static void cutTurnBeforeMeaning() {
-        CutShears x = crumbs(10, 200);
+        TapedShears x = crumbs(10, 200);
         x.bar(100, 0);
         cut(x, 100);
         Due.unchanged(x, 0, 0, TURN, x::cut);
@@ -144,7 +145,7 @@ public final class CutBoundaryTest {
 
     /** Promise 10: "it must be empty. Turn: it is not". */
     private static void bedMustBeEmpty() {
-        CutShears x = crumbs(3, 3);
+        TapedShears x = crumbs(3, 3);
         Due.unchanged(x, 0, 0, TURN, () -> x.bed(3, 200));
         x.bundle(0, 2);
         Due.unchanged(x, 0, 0, TURN, () -> x.bed(20, 200));
@@ -157,7 +158,7 @@ public final class CutBoundaryTest {
 
     /** Promise 10: what went to the side does not lie on the bed. */
     private static void bedOfSideCutsIsEmpty() {
-        CutShears x = new CutShears();
+        TapedShears x = new TapedShears();
         x.want(20, 20, 0);
         x.bed(1, 19);
         cut(x, 2);
@@ -169,7 +170,7 @@ public final class CutBoundaryTest {
 
     /** Promise 10: "range: places, longest."; the bed stays as it was, its longest too. */
     private static void bedOutOfRange() {
-        CutShears x = new CutShears();
+        TapedShears x = new TapedShears();
         x.want(20, 20, 0);
         x.bed(2, 20);
         for (int wrong : row(0, -1, 21, LEAST, MOST)) {
@@ -185,7 +186,7 @@ public final class CutBoundaryTest {
 
     /** Promise 10: the turn is looked at before the range. */
     private static void bedTurnBeforeRange() {
-        CutShears x = crumbs(10, 1);
+        TapedShears x = crumbs(10, 1);
         Due.turn("bed(0, 5)", () -> x.bed(0, 5));
         Due.turn("bed(5, 201)", () -> x.bed(5, 201));
         x.bundle(0, 1);
@@ -195,7 +196,7 @@ public final class CutBoundaryTest {
 
     /** Promise 10: the ends of both ranges. */
     private static void bedSmallestAndGreatest() {
-        CutShears x = new CutShears();
+        TapedShears x = new TapedShears();
         x.want(1, 2, 0);
         x.bar(2, 0);
         x.bed(1, 1);
@@ -203,7 +204,7 @@ public final class CutBoundaryTest {
         x.bar(1, 0);
         Due.is("a piece of 1 step", x.cut(), 0);
         x.bundle(0, 1);
-        CutShears y = endingAt(200);
+        TapedShears y = endingAt(200);
         y.bed(20, 200);
         Due.is("a piece of 200 steps", y.cut(), 0);
         y.bundle(0, 1);
@@ -214,7 +215,7 @@ public final class CutBoundaryTest {
 
     /** Promise 10: places that come with a greater bed are empty, also when they were in use before. */
     private static void bedThatGrowsAndShrinks() {
-        CutShears x = crumbs(20, 20);
+        TapedShears x = crumbs(20, 20);
         x.bundle(0, 20);
         x.bed(1, 200);
         Due.is("cut()", x.cut(), 0);
@@ -231,7 +232,7 @@ public final class CutBoundaryTest {
 
     /** Promise 11: "the number of the cut (0 the very first one), -1: none." */
     private static void atWithNothingThere() {
-        CutShears x = crumbs(2, 0);
+        TapedShears x = crumbs(2, 0);
         Due.is("at(0)", x.at(0), -1);
         Due.is("at(1)", x.at(1), -1);
         cut(x, 1);
@@ -248,7 +249,7 @@ public final class CutBoundaryTest {
     /** Promise 11: "Index: no such place." */
     private static void atNoSuchPlace() {
         for (int places : row(1, 2, 10, 19, 20)) {
-            CutShears x = crumbs(places, places);
+            TapedShears x = crumbs(places, places);
             Due.is("the last place", x.at(places - 1), places - 1);
             for (int wrong : row(-1, places, 21, LEAST, MOST)) {
                 Due.unchanged(x, 0, 0, INDEX, () -> x.at(wrong));
@@ -258,7 +259,7 @@ public final class CutBoundaryTest {
 
     /** Promise 12: "how many bundles there were": over all lengths and bars; refused ones do not count. */
     private static void bundleCountsBundles() {
-        CutShears x = new CutShears();
+        TapedShears x = new TapedShears();
         x.want(30, 30, 0);
         x.want(20, 20, 0);
         x.bar(50, 0);
@@ -279,7 +280,7 @@ public final class CutBoundaryTest {
 
     /** Promise 12: "Index: no such length". */
     private static void bundleNoSuchLength() {
-        CutShears x = crumbs(10, 3);
+        TapedShears x = crumbs(10, 3);
         for (int wrong : row(-1, 1, 5, 6, LEAST, MOST)) {
             Due.unchanged(x, 0, 0, INDEX, () -> x.bundle(wrong, 1));
         }
@@ -288,7 +289,7 @@ public final class CutBoundaryTest {
 
     /** Promise 12: "range: n" (1 .. 20). */
     private static void bundleOutOfRange() {
-        CutShears x = crumbs(20, 20);
+        TapedShears x = crumbs(20, 20);
         for (int wrong : row(0, -1, 21, LEAST, MOST)) {
             Due.unchanged(x, 0, 0, RANGE, () -> x.bundle(0, wrong));
         }
@@ -296,7 +297,7 @@ public final class CutBoundaryTest {
 
     /** Promise 12: "A bundle of n pieces (1 .. 20)": the ends of the range. */
     private static void bundleOfOneAndOfTwenty() {
-        CutShears x = crumbs(20, 20);
+        TapedShears x = crumbs(20, 20);
         Due.is("bundle(0, 1)", x.bundle(0, 1), 1);
         Due.meaning("one is missing", () -> x.bundle(0, 20));
         cut(x, 1);
@@ -312,7 +313,7 @@ public final class CutBoundaryTest {
 
     /** Promise 12: "meaning: there are not so many on the bed.": neither the side nor bundles count. */
     private static void bundleNotSoMany() {
-        CutShears x = crumbs(2, 5);
+        TapedShears x = crumbs(2, 5);
         Due.unchanged(x, 0, 0, MEANING, () -> x.bundle(0, 3));
         Due.is("bundle(0, 1)", x.bundle(0, 1), 1);
         Due.unchanged(x, 0, 0, MEANING, () -> x.bundle(0, 2));
@@ -324,7 +325,7 @@ public final class CutBoundaryTest {
 
     /** Promise 12: the refusals in their order. */
     private static void bundleIndexBeforeRangeBeforeMeaning() {
-        CutShears x = crumbs(10, 0);
+        TapedShears x = crumbs(10, 0);
         Due.index("bundle(1, 0)", () -> x.bundle(1, 0));
         Due.index("bundle(-1, 21)", () -> x.bundle(-1, 21));
         Due.index("bundle(1, 1)", () -> x.bundle(1, 1));
@@ -336,7 +337,7 @@ public final class CutBoundaryTest {
 
     /** Promise 13: "2 its place (-1 side, -2 bundled), 3 its bundle (-1: none)." */
     private static void cutAtEachState() {
-        CutShears x = new CutShears();
+        TapedShears x = new TapedShears();
         x.want(30, 30, 0);
         x.want(35, 35, 0);
         x.bed(1, 200);
@@ -354,7 +355,7 @@ public final class CutBoundaryTest {
 
     /** Promise 13: "Index: no such cut". */
     private static void cutAtNoSuchCut() {
-        CutShears x = crumbs(10, 0);
+        TapedShears x = crumbs(10, 0);
         Due.index("nothing is cut", () -> x.cutAt(0, 0));
         cut(x, 12);
         x.bar(200, 0);
@@ -369,7 +370,7 @@ public final class CutBoundaryTest {
 
     /** Promise 13: "or what." */
     private static void cutAtNoSuchWhat() {
-        CutShears x = crumbs(10, 1);
+        TapedShears x = crumbs(10, 1);
         for (int wrong : row(-1, 4, LEAST, MOST)) {
             Due.unchanged(x, 0, 0, INDEX, () -> x.cutAt(0, wrong));
             Due.index("both", () -> x.cutAt(1, wrong));
@@ -387,7 +388,7 @@ public final class CutBoundaryTest {
         time(200, 1, 200, 0);
         time(200, 1000, 0, 200);
         time(1, 1000, 0, 1);
-        CutShears x = new CutShears();
+        TapedShears x = new TapedShears();
         x.bar(200, 0);
         x.crop(100, 0);
         x.want(50, 50, 0);
@@ -423,16 +424,16 @@ public final class CutBoundaryTest {
         time(200, 199, 1, 5);
         time(199, 100, 1, 990);
         for (int end = 1; end <= 200; end++) {
-            CutShears x = endingAt(end);
+            TapedShears x = endingAt(end);
             for (int perTurn = end; perTurn <= 1000; perTurn++) {
-                Due.is("whole turns", x.blade(0, perTurn, 0), end == perTurn ? 1 : 0);
+                Due.is("whole turns", x.look(TapedShears.BLADE, 0, perTurn, 0), end == perTurn ? 1 : 0);
             }
         }
     }
 
     /** Promise 14: "Index: no such piece or part". */
     private static void bladeNoSuchPieceOrPart() {
-        CutShears x = crumbs(10, 3);
+        TapedShears x = crumbs(10, 3);
         for (int wrong : row(-1, 200, LEAST, MOST)) {
             Due.unchanged(x, 0, 0, INDEX, () -> x.blade(wrong, 1, 0));
             Due.unchanged(x, 0, 0, INDEX, () -> x.blade(wrong, 1, 1));
@@ -441,12 +442,12 @@ public final class CutBoundaryTest {
             Due.unchanged(x, 0, 0, INDEX, () -> x.blade(0, 1, wrong));
         }
         Due.is("the last piece", x.blade(199, 1, 0), 200);
-        Due.index("no piece at all", () -> new CutShears().blade(0, 1, 0));
+        Due.index("no piece at all", () -> new TapedShears().blade(0, 1, 0));
     }
 
     /** Promise 14: "range: per turn." (1 .. 1,000) */
     private static void bladeOutOfRange() {
-        CutShears x = crumbs(10, 3);
+        TapedShears x = crumbs(10, 3);
         for (int wrong : row(0, -1, 1001, LEAST, MOST)) {
             Due.unchanged(x, 0, 0, RANGE, () -> x.blade(0, wrong, 0));
             Due.unchanged(x, 0, 0, RANGE, () -> x.blade(199, wrong, 1));
@@ -455,7 +456,7 @@ public final class CutBoundaryTest {
 
     /** Promise 14: the index is looked at before the range. */
     private static void bladeIndexBeforeRange() {
-        CutShears x = crumbs(10, 0);
+        TapedShears x = crumbs(10, 0);
         Due.index("no such piece", () -> x.blade(200, 0, 0));
         Due.index("no such part", () -> x.blade(0, 0, 2));
         Due.index("no such part", () -> x.blade(0, 1001, -1));
@@ -463,7 +464,7 @@ public final class CutBoundaryTest {
 
     /** Promise 15: "Steps of a wanted length that were cut in all.": none yet. */
     private static void sumOfNothingCut() {
-        CutShears x = new CutShears();
+        TapedShears x = new TapedShears();
         x.want(50, 50, 0);
         x.want(150, 150, 0);
         Due.is("planned alone", x.sum(0), 0);
@@ -475,24 +476,20 @@ public final class CutBoundaryTest {
         Due.is("bundled, and of a bar before", x.sum(0), 50);
     }
 
-    /** Promise 15, the most that can be: 300 cuts of 200 steps, most of them at the side. */
+    /** Promise 15, the most that 512 calls can cut: 255 bars of 200 steps, most of them at the side. */
     private static void sumAtMost() {
-        CutShears x = endingAt(200);
-        for (int c = 0; c < 300; c++) {
+        TapedShears x = new TapedShears();
+        x.want(200, 200, 0);
+        for (int c = 0; c < 255; c++) {
             x.bar(200, 0);
             x.cut();
         }
-        Due.is("sum(0)", x.sum(0), 60000);
-        Due.meaning("cut()", () -> {
-            x.bar(200, 0);
-            x.cut();
-        });
-        Due.is("sum(0)", x.sum(0), 60000);
+        Due.is("sum(0), the 512th call", x.sum(0), 51000);
     }
 
     /** Promise 15: "Index: no such length." */
     private static void sumNoSuchLength() {
-        CutShears x = new CutShears();
+        TapedShears x = new TapedShears();
         Due.index("nothing is wanted", () -> x.sum(0));
         for (int count = 1; count <= 6; count++) {
             x.want(10, 10, 0);
@@ -505,7 +502,7 @@ public final class CutBoundaryTest {
 
     /** Promise 16: "-1 when there are not so many." */
     private static void sideWithNotSoMany() {
-        CutShears x = crumbs(2, 2);
+        TapedShears x = crumbs(2, 2);
         Due.is("side(0)", x.side(0), -1);
         cut(x, 1);
         Due.is("side(0)", x.side(0), 2);
@@ -524,16 +521,40 @@ public final class CutBoundaryTest {
 
     /** Promise 16: "Index: k is below 0." */
     private static void sideBelowZero() {
-        CutShears x = crumbs(1, 5);
+        TapedShears x = crumbs(1, 5);
         for (int wrong : row(-1, -2, LEAST)) {
             Due.unchanged(x, 0, 0, INDEX, () -> x.side(wrong));
-            Due.index("of a new object", () -> new CutShears().side(wrong));
+            Due.index("of a new object", () -> new TapedShears().side(wrong));
         }
+    }
+
+    /** "Nothing is promised beyond the .. state changes described above": calls that tell describe none. */
+    private static void tellingChangesNothing() {
+        TapedShears x = crumbs(2, 4);
+        x.bundle(0, 1);
+        String before = Shown.of(x);
+        for (int what = 0; what < 4; what++) {
+            x.piece(3, what);
+            x.piece(4, what);
+            x.cutAt(0, what);
+            x.cutAt(3, what);
+        }
+        x.pieces();
+        x.loss();
+        x.at(0);
+        x.at(1);
+        x.blade(4, 7, 0);
+        x.blade(4, 7, 1);
+        x.sum(0);
+        x.side(0);
+        x.side(9);
+        Due.same("after the calls that tell", Shown.of(x), before);
+        Due.is("the next place", x.cut(), 0);
     }
 
     /** "An object is used for at most 512 calls": the last one is as good as the first. */
     private static void runOfFiveHundredAndTwelveCalls() {
-        CutShears x = new CutShears();
+        TapedShears x = new TapedShears();
         x.want(1, 1, 0);
         for (int call = 1; call < 511; call++) {
             x.bar(100 + call % 100, 0);

@@ -18,15 +18,15 @@ public final class CutPromisesTest {
     }
 
     /** A bar of 200 pieces of one step each, wanted length 0. */
-    private static CutShears crumbs() {
-        CutShears x = new CutShears();
+    private static TapedShears crumbs() {
+        TapedShears x = new TapedShears();
         x.want(1, 1, 1);
         x.bar(200, 0);
         return x;
     }
 
     private static void cutFillsTheBed() {
-        CutShears x = crumbs();
+        TapedShears x = crumbs();
         for (int place = 0; place < 10; place++) {
             Due.is("cut()", x.cut(), place);
         }
@@ -39,7 +39,7 @@ public final class CutPromisesTest {
     }
 
     private static void cutHasNoneLeft() {
-        CutShears x = new CutShears();
+        TapedShears x = new TapedShears();
         Due.turn("cut()", x::cut);
         x.want(60, 60, 0);
         Due.is("cut()", x.cut(), 0);
@@ -52,7 +52,7 @@ public final class CutPromisesTest {
     }
 
     private static void cutStopsAtThreeHundred() {
-        CutShears x = crumbs();
+        TapedShears x = crumbs();
         for (int c = 0; c < 200; c++) {
             x.cut();
         }
@@ -74,7 +74,7 @@ public final class CutPromisesTest {
     }
 
     private static void bedLimits() {
-        CutShears x = crumbs();
+        TapedShears x = crumbs();
         int[][] wrong = {{0, 5}, {-1, 5}, {21, 5}, {5, 0}, {5, -1}, {5, 201}, {Integer.MIN_VALUE, 5},
             {Integer.MAX_VALUE, 5}, {5, Integer.MIN_VALUE}, {5, Integer.MAX_VALUE}};
         for (int[] w : wrong) {
@@ -91,7 +91,7 @@ public final class CutPromisesTest {
     }
 
     private static void bedMustBeEmpty() {
-        CutShears x = crumbs();
+        TapedShears x = crumbs();
         x.cut();
         x.cut();
         Due.turn("bed(5, 5)", () -> x.bed(5, 5));
@@ -106,7 +106,7 @@ public final class CutPromisesTest {
     }
 
     private static void bedTooShort() {
-        CutShears x = new CutShears();
+        TapedShears x = new TapedShears();
         x.want(20, 20, 0);
         x.bed(3, 19);
         Due.is("cut(), too long", x.cut(), -1);
@@ -117,7 +117,7 @@ public final class CutPromisesTest {
     }
 
     private static void atPlaces() {
-        CutShears x = crumbs();
+        TapedShears x = crumbs();
         x.bed(3, 200);
         for (int c = 0; c < 5; c++) {
             x.cut();
@@ -137,7 +137,7 @@ public final class CutPromisesTest {
 
     /** Cut 3 lies at place 0, below the earlier cuts 1 and 2: the bundle must go by the cuts. */
     private static void bundleTakesTheFirstCutFirst() {
-        CutShears x = crumbs();
+        TapedShears x = crumbs();
         x.bed(3, 200);
         x.cut();
         x.cut();
@@ -155,7 +155,7 @@ public final class CutPromisesTest {
     }
 
     private static void bundleRefusals() {
-        CutShears x = new CutShears();
+        TapedShears x = new TapedShears();
         x.want(30, 30, 0);
         x.want(40, 40, 0);
         x.cut();
@@ -180,7 +180,7 @@ public final class CutPromisesTest {
     }
 
     private static void bundleOfTwenty() {
-        CutShears x = crumbs();
+        TapedShears x = crumbs();
         x.bed(20, 200);
         for (int c = 0; c < 22; c++) {
             x.cut();
@@ -190,7 +190,7 @@ public final class CutPromisesTest {
     }
 
     private static void cutAtTells() {
-        CutShears x = new CutShears();
+        TapedShears x = new TapedShears();
         x.want(60, 60, 0);
         x.want(35, 35, 0);
         x.bed(2, 40);
@@ -215,7 +215,7 @@ public final class CutPromisesTest {
     }
 
     private static void sumOverBars() {
-        CutShears x = new CutShears();
+        TapedShears x = new TapedShears();
         x.want(30, 34, 0);
         x.want(50, 50, 9);
         x.want(7, 7, 0);
@@ -236,7 +236,7 @@ public final class CutPromisesTest {
     }
 
     private static void sideInOrder() {
-        CutShears x = crumbs();
+        TapedShears x = crumbs();
         x.bed(1, 200);
         x.cut();
         x.cut();

@@ -51,7 +51,7 @@ final class Due {
     }
 
     /** A piece of the plan by all that piece() tells of it. */
-    static void piece(CutShears x, int k, int wanted, int begin, int steps, int isCut) {
+    static void piece(TapedShears x, int k, int wanted, int begin, int steps, int isCut) {
         is("piece(" + k + ", 0)", x.piece(k, 0), wanted);
         is("piece(" + k + ", 1)", x.piece(k, 1), begin);
         is("piece(" + k + ", 2)", x.piece(k, 2), steps);
@@ -59,7 +59,7 @@ final class Due {
     }
 
     /** The whole plan: the loss, and of each piece what piece() tells of it. */
-    static void plan(CutShears x, int loss, int[]... pieces) {
+    static void plan(TapedShears x, int loss, int[]... pieces) {
         is("loss()", x.loss(), loss);
         is("pieces()", x.pieces(), pieces.length);
         for (int k = 0; k < pieces.length && k < x.pieces(); k++) {
@@ -72,7 +72,7 @@ final class Due {
      * A refused call leaves everything as it was. What is hidden until the next planning (the length, the
      * error) shows when the same crops are told again.
      */
-    static void unchanged(CutShears x, int head, int tail, Class<? extends RuntimeException> due, Runnable act) {
+    static void unchanged(TapedShears x, int head, int tail, Class<? extends RuntimeException> due, Runnable act) {
         String before = Shown.of(x);
         refused("the call", due, act);
         same("after the refusal", Shown.of(x), before);

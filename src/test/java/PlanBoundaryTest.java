@@ -45,8 +45,8 @@ public final class PlanBoundaryTest {
     }
 
     /** A bar of 50 with an error of 5, crops of 3 and 2, wanted 10, of which two are cut: 20 of 40. */
-    private static CutShears halfCut() {
-        CutShears x = new CutShears();
+    private static TapedShears halfCut() {
+        TapedShears x = new TapedShears();
         x.want(10, 10, 0);
         x.bar(50, 5);
         x.crop(3, 2);
@@ -57,10 +57,10 @@ public final class PlanBoundaryTest {
 
     /** Promise 1: "A bar of 100, nothing wanted, nothing cut." */
     private static void newObjectHasNothing() {
-        CutShears x = new CutShears();
+        TapedShears x = new TapedShears();
         Due.plan(x, 100);
         Due.same("a new object", Shown.of(x),
-            "pieces 0 loss 100 bed -1 -1 -1 -1 -1 -1 -1 -1 -1 -1 end cuts end sums end side -1");
+            "pieces 0 loss 100 plan end bed -1 -1 -1 -1 -1 -1 -1 -1 -1 -1 end cuts end sums end side -1");
         Due.turn("cut()", x::cut);
         Due.index("bundle(0, 1)", () -> x.bundle(0, 1));
         Due.index("blade(0, 1, 0)", () -> x.blade(0, 1, 0));
@@ -68,9 +68,9 @@ public final class PlanBoundaryTest {
 
     /** Promise 1, of two objects: nothing is shared between them. */
     private static void objectsAreApart() {
-        CutShears x = halfCut();
+        TapedShears x = halfCut();
         String before = Shown.of(x);
-        CutShears y = new CutShears();
+        TapedShears y = new TapedShears();
         Due.plan(y, 100);
         y.want(7, 9, 9);
         y.bed(2, 5);
@@ -80,7 +80,7 @@ public final class PlanBoundaryTest {
 
     /** Promise 2: "One more wanted length: its number." */
     private static void wantAnswersItsNumber() {
-        CutShears x = new CutShears();
+        TapedShears x = new TapedShears();
         Due.is("want", x.want(1, 200, 0), 0);
         Due.range("refused", () -> x.want(0, 200, 0));
         Due.is("a refused one has no number", x.want(1, 200, 0), 1);
@@ -93,7 +93,7 @@ public final class PlanBoundaryTest {
 
     /** Promise 2: "Range: it is not so (low above high)". */
     private static void wantOutOfRange() {
-        CutShears x = halfCut();
+        TapedShears x = halfCut();
         int[][] wrong = {{0, 10, 0}, {-1, 10, 0}, {LEAST, 10, 0}, {10, 201, 0}, {10, MOST, 0}, {201, 201, 0},
             {10, 9, 0}, {200, 1, 0}, {10, 0, 0}, {10, LEAST, 0}, {MOST, MOST, 0}, {MOST, LEAST, 0}, {0, 0, 0},
             {10, 10, -1}, {10, 10, 10}, {10, 10, LEAST}, {10, 10, MOST}};
@@ -106,7 +106,7 @@ public final class PlanBoundaryTest {
 
     /** Promise 2: "meaning: there are 6." */
     private static void wantWithSix() {
-        CutShears x = halfCut();
+        TapedShears x = halfCut();
         for (int number = 1; number < 6; number++) {
             Due.is("want", x.want(150, 150, 0), number);
         }
@@ -119,7 +119,7 @@ public final class PlanBoundaryTest {
 
     /** Promise 2: the range is looked at before the meaning. */
     private static void wantOutOfRangeWithSix() {
-        CutShears x = new CutShears();
+        TapedShears x = new TapedShears();
         for (int number = 0; number < 6; number++) {
             x.want(10, 10, 0);
         }
@@ -131,7 +131,7 @@ public final class PlanBoundaryTest {
 
     /** Promise 3: "The next bar: nothing of it is cut". */
     private static void barHasNothingCut() {
-        CutShears x = halfCut();
+        TapedShears x = halfCut();
         x.bar(25, 0);
         Due.plan(x, 0, row(0, 3, 10, 0), row(0, 13, 10, 0));
         x.cut();
@@ -144,7 +144,7 @@ public final class PlanBoundaryTest {
 
     /** Promise 3: "(what lies on the bed stays)". */
     private static void barLeavesTheBed() {
-        CutShears x = halfCut();
+        TapedShears x = halfCut();
         x.bar(1, 50);
         Due.is("at(0)", x.at(0), 0);
         Due.is("at(1)", x.at(1), 1);
@@ -155,7 +155,7 @@ public final class PlanBoundaryTest {
 
     /** Promise 3: a bar of the same numbers is another bar. */
     private static void barWithTheSameLength() {
-        CutShears x = halfCut();
+        TapedShears x = halfCut();
         x.bar(50, 5);
         Due.plan(x, 0, row(0, 3, 10, 0), row(0, 13, 10, 0), row(0, 23, 10, 0), row(0, 33, 10, 0));
         Due.is("sum(0)", x.sum(0), 20);
@@ -163,7 +163,7 @@ public final class PlanBoundaryTest {
 
     /** Promise 3: "Range: they are not so." */
     private static void barOutOfRange() {
-        CutShears x = halfCut();
+        TapedShears x = halfCut();
         int[][] wrong = {{0, 0}, {-1, 0}, {201, 0}, {LEAST, 0}, {MOST, 0}, {50, -1}, {50, 51}, {50, LEAST}, {50, MOST},
             {0, 51}};
         for (int[] w : wrong) {
@@ -178,7 +178,7 @@ public final class PlanBoundaryTest {
 
     /** Promise 4: "The crops.": with nothing cut they may leave no room at all. */
     private static void cropWithNothingCut() {
-        CutShears x = new CutShears();
+        TapedShears x = new TapedShears();
         x.want(10, 10, 0);
         x.bar(1, 50);
         x.crop(100, 100);
@@ -196,7 +196,7 @@ public final class PlanBoundaryTest {
 
     /** Promise 4: "Range: they are not so". */
     private static void cropOutOfRange() {
-        CutShears x = halfCut();
+        TapedShears x = halfCut();
         int[][] wrong = {{-1, 2}, {101, 2}, {LEAST, 2}, {MOST, 2}, {3, -1}, {3, 101}, {3, LEAST}, {3, MOST}, {-1, -1},
             {101, 101}};
         for (int[] w : wrong) {
@@ -206,12 +206,12 @@ public final class PlanBoundaryTest {
 
     /** Promise 4: "meaning: the head is another one and something is cut". */
     private static void cropWithAnotherHead() {
-        CutShears x = halfCut();
+        TapedShears x = halfCut();
         for (int head : row(0, 2, 4, 100)) {
             Due.unchanged(x, 3, 2, MEANING, () -> x.crop(head, 2));
             Due.unchanged(x, 3, 2, MEANING, () -> x.crop(head, 0));
         }
-        CutShears y = new CutShears();
+        TapedShears y = new TapedShears();
         y.want(10, 10, 0);
         y.crop(5, 0);
         y.crop(6, 0);
@@ -222,7 +222,7 @@ public final class PlanBoundaryTest {
 
     /** Promise 4: the same head is none of another. */
     private static void cropWithTheSameHead() {
-        CutShears x = halfCut();
+        TapedShears x = halfCut();
         String before = Shown.of(x);
         x.crop(3, 2);
         Due.same("the same crops", Shown.of(x), before);
@@ -234,7 +234,7 @@ public final class PlanBoundaryTest {
 
     /** Promise 4: what was cut of an earlier bar binds neither the head nor the tail of the next one. */
     private static void cropWithCutsOfAnEarlierBarAlone() {
-        CutShears x = halfCut();
+        TapedShears x = halfCut();
         x.bar(50, 5);
         x.crop(4, 31);
         Due.plan(x, 0, row(0, 4, 10, 0));
@@ -244,7 +244,7 @@ public final class PlanBoundaryTest {
 
     /** Promise 4: "or the cuts would not fit any more." */
     private static void cropThatTheCutsJustFit() {
-        CutShears x = new CutShears();
+        TapedShears x = new TapedShears();
         x.want(10, 10, 0);
         x.bar(60, 0);
         x.cut();
@@ -259,7 +259,7 @@ public final class PlanBoundaryTest {
 
     /** Promise 4, the same with an error and a head: the cuts must fit the room that is planned on. */
     private static void cropThatTheCutsJustFitWithAnError() {
-        CutShears x = halfCut();
+        TapedShears x = halfCut();
         Due.unchanged(x, 3, 2, MEANING, () -> x.crop(3, 23));
         x.crop(3, 22);
         Due.plan(x, 0, row(0, 3, 10, 1), row(0, 13, 10, 1));
@@ -272,7 +272,7 @@ public final class PlanBoundaryTest {
 
     /** Promise 4: the range is looked at before the meaning. */
     private static void cropRangeBeforeMeaning() {
-        CutShears x = halfCut();
+        TapedShears x = halfCut();
         Due.range("another head, a tail out of range", () -> x.crop(4, 101));
         Due.range("a head out of range, the cuts would not fit", () -> x.crop(101, 100));
         Due.range("a head below 0", () -> x.crop(-1, 100));
@@ -282,7 +282,7 @@ public final class PlanBoundaryTest {
     private static void cropRefusedKeepsTheCrops() {
         int[][] refused = {{3, 23}, {4, 2}, {3, 101}, {101, 2}, {0, 0}};
         for (int[] crops : refused) {
-            CutShears x = halfCut();
+            TapedShears x = halfCut();
             try {
                 x.crop(crops[0], crops[1]);
                 Due.holds("crop is refused", false);
@@ -298,12 +298,12 @@ public final class PlanBoundaryTest {
 
     /** Promise 5: "The length is known: the error is 0." */
     private static void knownTakesTheErrorAway() {
-        CutShears x = halfCut();
+        TapedShears x = halfCut();
         x.known(50);
         Due.plan(x, 5, row(0, 3, 10, 1), row(0, 13, 10, 1), row(0, 23, 10, 0), row(0, 33, 10, 0));
         x.crop(3, 0);
         Due.is("the error does not come back", x.loss(), 7);
-        CutShears y = new CutShears();
+        TapedShears y = new TapedShears();
         y.known(100);
         Due.plan(y, 100);
         y.bar(100, 50);
@@ -316,7 +316,7 @@ public final class PlanBoundaryTest {
 
     /** Promise 5: "Range: it". */
     private static void knownOutOfRange() {
-        CutShears x = halfCut();
+        TapedShears x = halfCut();
         for (int wrong : row(0, -1, 201, LEAST, MOST)) {
             Due.unchanged(x, 3, 2, RANGE, () -> x.known(wrong));
         }
@@ -327,7 +327,7 @@ public final class PlanBoundaryTest {
 
     /** Promise 5: "meaning: the cuts would not fit any more." */
     private static void knownThatTheCutsJustFit() {
-        CutShears x = halfCut();
+        TapedShears x = halfCut();
         Due.unchanged(x, 3, 2, MEANING, () -> x.known(24));
         Due.unchanged(x, 3, 2, MEANING, () -> x.known(1));
         x.known(25);
@@ -339,7 +339,7 @@ public final class PlanBoundaryTest {
 
     /** Promise 5: with nothing cut there is nothing that would not fit. */
     private static void knownShorterThanTheCropsWithNothingCut() {
-        CutShears x = halfCut();
+        TapedShears x = halfCut();
         x.bar(50, 5);
         x.known(4);
         Due.plan(x, 0);
@@ -351,14 +351,14 @@ public final class PlanBoundaryTest {
 
     /** Promise 5: the range is looked at before the meaning. */
     private static void knownRangeBeforeMeaning() {
-        CutShears x = halfCut();
+        TapedShears x = halfCut();
         Due.range("known(0)", () -> x.known(0));
         Due.range("known(-1)", () -> x.known(-1));
     }
 
     /** Promise 5: the length may become known again, longer or shorter. */
     private static void knownTwice() {
-        CutShears x = halfCut();
+        TapedShears x = halfCut();
         x.known(35);
         Due.plan(x, 0, row(0, 3, 10, 1), row(0, 13, 10, 1), row(0, 23, 10, 0));
         x.known(34);
@@ -369,7 +369,7 @@ public final class PlanBoundaryTest {
 
     /** Promise 6: "How many pieces the plan has (cut ones with them)." */
     private static void piecesWithCutOnes() {
-        CutShears x = halfCut();
+        TapedShears x = halfCut();
         Due.is("pieces()", x.pieces(), 4);
         x.cut();
         x.cut();
@@ -384,7 +384,7 @@ public final class PlanBoundaryTest {
 
     /** Promise 6, the most that can be: a bar of 200 in steps of one, cut to its end. */
     private static void piecesAtMost() {
-        CutShears x = new CutShears();
+        TapedShears x = new TapedShears();
         x.want(1, 1, 0);
         x.bar(200, 0);
         Due.is("pieces()", x.pieces(), 200);
@@ -402,7 +402,7 @@ public final class PlanBoundaryTest {
 
     /** Promise 7: "Index: no such piece or what." */
     private static void pieceIndex() {
-        CutShears x = halfCut();
+        TapedShears x = halfCut();
         for (int what = 0; what < 4; what++) {
             int w = what;
             for (int k : row(-1, 4, LEAST, MOST)) {
@@ -423,7 +423,7 @@ public final class PlanBoundaryTest {
 
     /** Promise 7 of a plan without a piece. */
     private static void pieceIndexOfAnEmptyPlan() {
-        CutShears x = new CutShears();
+        TapedShears x = new TapedShears();
         for (int what : row(-1, 0, 1, 2, 3, 4)) {
             Due.index("nothing is wanted", () -> x.piece(0, what));
         }
@@ -434,7 +434,7 @@ public final class PlanBoundaryTest {
 
     /** Promise 7: "1 where it begins (from the bar's begin)": behind the greatest head. */
     private static void pieceBehindAHead() {
-        CutShears x = new CutShears();
+        TapedShears x = new TapedShears();
         x.want(99, 99, 0);
         x.want(1, 1, 0);
         x.bar(200, 0);
@@ -446,7 +446,7 @@ public final class PlanBoundaryTest {
 
     /** Promise 8: "The loss.": none, one step, the whole room. */
     private static void lossOfNothingAndOfAll() {
-        CutShears x = new CutShears();
+        TapedShears x = new TapedShears();
         x.bar(200, 0);
         Due.is("nothing is wanted", x.loss(), 200);
         x.want(100, 100, 0);

@@ -19,7 +19,7 @@ public final class PlanPromisesTest {
     }
 
     private static void newObject() {
-        CutShears x = new CutShears();
+        TapedShears x = new TapedShears();
         Due.is("pieces()", x.pieces(), 0);
         Due.is("loss()", x.loss(), 100);
         Due.index("piece(0, 0)", () -> x.piece(0, 0));
@@ -38,7 +38,7 @@ public final class PlanPromisesTest {
     }
 
     private static void wantNumbers() {
-        CutShears x = new CutShears();
+        TapedShears x = new TapedShears();
         for (int number = 0; number < 6; number++) {
             Due.is("want()", x.want(1 + number, 200, 9), number);
             Due.is("sum()", x.sum(number), 0);
@@ -49,7 +49,7 @@ public final class PlanPromisesTest {
     }
 
     private static void wantRefusals() {
-        CutShears x = new CutShears();
+        TapedShears x = new TapedShears();
         int[][] wrong = {{0, 1, 0}, {-1, 5, 0}, {6, 5, 0}, {1, 201, 0}, {201, 201, 0}, {1, 1, -1}, {1, 1, 10},
             {0, 0, 0}, {Integer.MIN_VALUE, Integer.MAX_VALUE, 0}, {1, Integer.MAX_VALUE, 0}, {1, 1, Integer.MIN_VALUE}};
         for (int[] w : wrong) {
@@ -61,7 +61,7 @@ public final class PlanPromisesTest {
     }
 
     private static void wantPlansAnewBehindTheCuts() {
-        CutShears x = new CutShears();
+        TapedShears x = new TapedShears();
         x.want(40, 40, 0);
         x.cut();
         Due.is("loss()", x.loss(), 20);
@@ -74,7 +74,7 @@ public final class PlanPromisesTest {
     }
 
     private static void barStartsAnew() {
-        CutShears x = new CutShears();
+        TapedShears x = new TapedShears();
         x.want(25, 25, 1);
         x.crop(5, 10);
         x.cut();
@@ -90,7 +90,7 @@ public final class PlanPromisesTest {
     }
 
     private static void barLimits() {
-        CutShears x = new CutShears();
+        TapedShears x = new TapedShears();
         int[][] wrong = {{0, 0}, {-1, 0}, {201, 0}, {5, -1}, {5, 51}, {Integer.MIN_VALUE, 0}, {Integer.MAX_VALUE, 0},
             {5, Integer.MIN_VALUE}, {5, Integer.MAX_VALUE}};
         for (int[] w : wrong) {
@@ -108,7 +108,7 @@ public final class PlanPromisesTest {
     }
 
     private static void cropMovesAndShrinks() {
-        CutShears x = new CutShears();
+        TapedShears x = new TapedShears();
         x.want(10, 12, 0);
         x.crop(30, 40);
         Due.is("pieces()", x.pieces(), 3);
@@ -122,7 +122,7 @@ public final class PlanPromisesTest {
     }
 
     private static void cropLimits() {
-        CutShears x = new CutShears();
+        TapedShears x = new TapedShears();
         int[][] wrong = {{-1, 0}, {0, -1}, {101, 0}, {0, 101}, {Integer.MAX_VALUE, Integer.MAX_VALUE},
             {Integer.MIN_VALUE, 0}, {0, Integer.MIN_VALUE}};
         for (int[] w : wrong) {
@@ -140,7 +140,7 @@ public final class PlanPromisesTest {
     }
 
     private static void cropBehindCuts() {
-        CutShears x = new CutShears();
+        TapedShears x = new TapedShears();
         x.want(20, 20, 0);
         x.bar(100, 10);
         x.crop(5, 5);
@@ -163,7 +163,7 @@ public final class PlanPromisesTest {
     }
 
     private static void knownPlansAnew() {
-        CutShears x = new CutShears();
+        TapedShears x = new TapedShears();
         x.want(20, 20, 0);
         x.want(15, 15, 0);
         x.bar(110, 10);
@@ -179,7 +179,7 @@ public final class PlanPromisesTest {
     }
 
     private static void knownLimits() {
-        CutShears x = new CutShears();
+        TapedShears x = new TapedShears();
         for (int wrong : new int[] {0, -1, 201, Integer.MIN_VALUE, Integer.MAX_VALUE}) {
             Due.range("known(" + wrong + ")", () -> x.known(wrong));
         }
@@ -201,7 +201,7 @@ public final class PlanPromisesTest {
     }
 
     private static void piecesAndPiece() {
-        CutShears x = new CutShears();
+        TapedShears x = new TapedShears();
         x.want(1, 1, 0);
         x.bar(200, 0);
         Due.is("pieces()", x.pieces(), 200);
@@ -219,7 +219,7 @@ public final class PlanPromisesTest {
     }
 
     private static void lossOfEmptyRoom() {
-        CutShears x = new CutShears();
+        TapedShears x = new TapedShears();
         x.want(1, 200, 9);
         x.bar(10, 20);
         Due.is("loss()", x.loss(), 0);
@@ -230,7 +230,7 @@ public final class PlanPromisesTest {
     }
 
     private static void refusalsChangeNothing() {
-        CutShears x = new CutShears();
+        TapedShears x = new TapedShears();
         x.want(30, 30, 2);
         x.cut();
         Due.meaning("crop(1, 0)", () -> x.crop(1, 0));

@@ -1,6 +1,7 @@
 import java.util.Arrays;
+import java.util.function.IntSupplier;
 
-/** Runs of up to 512 calls, right and wrong ones, against SlowShears; the seeds are fixed. */
+/** Runs of 512 calls, right and wrong ones, against SlowShears; the seeds are fixed. */
 public final class RandomRunsTest {
     private static final String[] NAMES = {"want", "bar", "crop", "known", "pieces", "piece", "loss", "cut", "bed",
         "at", "bundle", "cutAt", "blade", "sum", "side"};
@@ -10,6 +11,8 @@ public final class RandomRunsTest {
     private static final int[] EXTREMES = {Integer.MIN_VALUE, Integer.MIN_VALUE + 1, -1000, -2, -1, 0, 1, 6, 20, 21,
         50, 51, 100, 101, 200, 201, 300, 1000, 1001, Integer.MAX_VALUE - 1, Integer.MAX_VALUE};
     private static final long NO_ANSWER = Long.MIN_VALUE;
+    /** Looks near a run's end would take a copy of the whole run for every few of them. */
+    private static final int FEW_CALLS = 32;
 
     private static long state;
     private static final int[] seen = new int[NAMES.length * 5];
@@ -29,7 +32,7 @@ public final class RandomRunsTest {
     }
 
     private static void oneRun(int run) {
-        CutShears x = new CutShears();
+        TapedShears x = new TapedShears();
         SlowShears slow = new SlowShears();
         int longestPiece = run % 3 == 0 ? 8 : run % 3 == 1 ? 60 : 200;
         for (int call = 0; call < 512; call++) {
@@ -37,8 +40,8 @@ public final class RandomRunsTest {
             int[] a = arguments(method, slow, longestPiece);
             String text = "run " + run + " call " + call + ": " + NAMES[method]
                 + Arrays.toString(Arrays.copyOf(a, PARAMETERS[method]));
-            same(text, x, slow, method, a);
-            if (method <= 3 || call % 16 == 0) {
+            same(text, () -> x.call(method, a), slow, method, a);
+            if (x.callsLeft() >= FEW_CALLS && (method <= TapedShears.KNOWN || call % 16 == 0)) {
                 sameState(text + ", then ", x, slow);
             }
         }
@@ -89,27 +92,7 @@ public final class RandomRunsTest {
         }
     }
 
-    private static long ask(CutShears x, int method, int[] a) {
-        switch (method) {
-            case 0: return x.want(a[0], a[1], a[2]);
-            case 1: x.bar(a[0], a[1]); return 0;
-            case 2: x.crop(a[0], a[1]); return 0;
-            case 3: x.known(a[0]); return 0;
-            case 4: return x.pieces();
-            case 5: return x.piece(a[0], a[1]);
-            case 6: return x.loss();
-            case 7: return x.cut();
-            case 8: x.bed(a[0], a[1]); return 0;
-            case 9: return x.at(a[0]);
-            case 10: return x.bundle(a[0], a[1]);
-            case 11: return x.cutAt(a[0], a[1]);
-            case 12: return x.blade(a[0], a[1], a[2]);
-            case 13: return x.sum(a[0]);
-            default: return x.side(a[0]);
-        }
-    }
-
-    private static void same(String text, CutShears x, SlowShears slow, int method, int[] a) {
+    private static void same(String text, IntSupplier ask, SlowShears slow, int method, int[] a) {
         long due = NO_ANSWER;
         Class<? extends RuntimeException> refusal = null;
         try {
@@ -119,12 +102,12 @@ public final class RandomRunsTest {
         }
         seen[method * 5 + kindOf(refusal)]++;
         if (refusal != null) {
-            Due.refused(text, refusal, () -> ask(x, method, a));
+            Due.refused(text, refusal, ask::getAsInt);
             return;
         }
         long got = NO_ANSWER;
         try {
-            got = ask(x, method, a);
+            got = ask.getAsInt();
         } catch (RuntimeException thrown) {
             System.out.println(text + " threw " + thrown);
         }
@@ -138,26 +121,31 @@ public final class RandomRunsTest {
             : refusal == IllegalArgumentException.class ? 3 : 4;
     }
 
-    private static void sameState(String text, CutShears x, SlowShears slow) {
-        int pieces = (int) slow.call(4, 0, 0, 0);
-        same(text + "pieces()", x, slow, 4, new int[3]);
-        same(text + "loss()", x, slow, 6, new int[3]);
+    private static void sameState(String text, TapedShears x, SlowShears slow) {
+        int pieces = (int) slow.call(TapedShears.PIECES, 0, 0, 0);
+        sameLook(text, x, slow, TapedShears.PIECES, 0, 0);
+        sameLook(text, x, slow, TapedShears.LOSS, 0, 0);
         for (int k = 0; k <= pieces; k += 1 + k / 8) {
             for (int what = 0; what < 4; what++) {
-                same(text + "piece(" + k + ", " + what + ")", x, slow, 5, new int[] {k, what, 0});
+                sameLook(text, x, slow, TapedShears.PIECE, k, what);
             }
         }
         for (int place = 0; place <= slow.places(); place++) {
-            same(text + "at(" + place + ")", x, slow, 9, new int[] {place, 0, 0});
+            sameLook(text, x, slow, TapedShears.AT, place, 0);
         }
         for (int c = 0; c <= slow.cuts(); c += 1 + below(12)) {
             for (int what = 0; what < 4; what++) {
-                same(text + "cutAt(" + c + ", " + what + ")", x, slow, 11, new int[] {c, what, 0});
+                sameLook(text, x, slow, TapedShears.CUT_AT, c, what);
             }
         }
         for (int wanted = 0; wanted <= slow.wanted(); wanted++) {
-            same(text + "sum(" + wanted + ")", x, slow, 13, new int[] {wanted, 0, 0});
+            sameLook(text, x, slow, TapedShears.SUM, wanted, 0);
         }
+    }
+
+    private static void sameLook(String text, TapedShears x, SlowShears slow, int method, int a, int b) {
+        String look = text + NAMES[method] + "(" + a + ", " + b + ")";
+        same(look, () -> x.look(method, a, b), slow, method, new int[] {a, b, 0});
     }
 
     /** Each answer and refusal that the document names must have come up, or the runs prove little. */

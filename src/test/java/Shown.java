@@ -1,65 +1,50 @@
-/** All that can be asked of an object, as one text. */
+/** All that can be asked of an object, as one text; asked of copies, so that it uses up no calls. */
 final class Shown {
-    private static final int[] WHATS = {0, 1, 2, 3};
+    private static final int MANY = 1000;
 
     private Shown() {
     }
 
-    static String of(CutShears x) {
+    static String of(TapedShears x) {
         StringBuilder text = new StringBuilder();
-        text.append("pieces ").append(x.pieces()).append(" loss ").append(x.loss());
-        for (int k = 0; k < x.pieces(); k++) {
-            for (int what : WHATS) {
-                text.append(' ').append(x.piece(k, what));
-            }
-            text.append(' ').append(x.blade(k, 7, 0)).append('.').append(x.blade(k, 7, 1));
-        }
-        bed(x, text);
-        cuts(x, text);
-        sums(x, text);
+        plan(x, text);
+        rows(x, text, " bed", TapedShears.AT, 1);
+        rows(x, text, " cuts", TapedShears.CUT_AT, 4);
+        rows(x, text, " sums", TapedShears.SUM, 1);
         side(x, text);
         return text.toString();
     }
 
-    private static void bed(CutShears x, StringBuilder text) {
-        text.append(" bed ");
-        try {
-            for (int place = 0; place < 1000; place++) {
-                text.append(x.at(place)).append(' ');
-            }
-        } catch (IndexOutOfBoundsException noSuchPlace) {
-            text.append("end");
+    private static void plan(TapedShears x, StringBuilder text) {
+        text.append("pieces ").append(x.look(TapedShears.PIECES));
+        text.append(" loss ").append(x.look(TapedShears.LOSS));
+        rows(x, text, " plan", TapedShears.PIECE, 4);
+        int last = x.look(TapedShears.PIECES) - 1;
+        if (last >= 0) {
+            text.append(" blade ").append(x.look(TapedShears.BLADE, last, 7, 0));
+            text.append('.').append(x.look(TapedShears.BLADE, last, 7, 1));
         }
     }
 
-    private static void cuts(CutShears x, StringBuilder text) {
-        text.append(" cuts ");
+    /** What a call tells of 0, 1, .. until there is no such number. */
+    private static void rows(TapedShears x, StringBuilder text, String name, int method, int whats) {
+        text.append(name);
         try {
-            for (int c = 0; c < 1000; c++) {
-                for (int what : WHATS) {
-                    text.append(x.cutAt(c, what)).append(' ');
+            for (int number = 0; number < MANY; number++) {
+                for (int what = 0; what < whats; what++) {
+                    int told = x.look(method, number, what);
+                    text.append(' ').append(told);
                 }
             }
-        } catch (IndexOutOfBoundsException noSuchCut) {
-            text.append("end");
+        } catch (IndexOutOfBoundsException noSuchNumber) {
+            text.append(" end");
         }
     }
 
-    private static void sums(CutShears x, StringBuilder text) {
-        text.append(" sums ");
-        try {
-            for (int wanted = 0; wanted < 1000; wanted++) {
-                text.append(x.sum(wanted)).append(' ');
-            }
-        } catch (IndexOutOfBoundsException noSuchLength) {
-            text.append("end");
-        }
-    }
-
-    private static void side(CutShears x, StringBuilder text) {
+    private static void side(TapedShears x, StringBuilder text) {
         text.append(" side");
-        for (int k = 0; k < 1000; k++) {
-            int c = x.side(k);
+        for (int k = 0; k < MANY; k++) {
+            int c = x.look(TapedShears.SIDE, k);
             text.append(' ').append(c);
             if (c < 0) {
                 return;

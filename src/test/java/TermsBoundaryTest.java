@@ -31,8 +31,8 @@ public final class TermsBoundaryTest {
     }
 
     /** A new object with a bar without error that wants spans {low, high, rank}. */
-    private static CutShears on(int length, int[]... spans) {
-        CutShears x = new CutShears();
+    private static TapedShears on(int length, int[]... spans) {
+        TapedShears x = new TapedShears();
         x.bar(length, 0);
         for (int[] span : spans) {
             x.want(span[0], span[1], span[2]);
@@ -46,7 +46,7 @@ public final class TermsBoundaryTest {
 
     /** "Lengths are told in STEPS (1 .. 200 each)." */
     private static void lengthsOfOneToTwoHundredSteps() {
-        CutShears x = new CutShears();
+        TapedShears x = new TapedShears();
         for (int wrong : row(0, 201, -1, Integer.MIN_VALUE, Integer.MAX_VALUE)) {
             Due.range("want, low " + wrong, () -> x.want(wrong, 200, 0));
             Due.range("want, high " + wrong, () -> x.want(1, wrong, 0));
@@ -55,7 +55,7 @@ public final class TermsBoundaryTest {
             Due.range("bed, longest " + wrong, () -> x.bed(10, wrong));
         }
         for (int right : row(1, 200)) {
-            CutShears y = on(right, row(right, right, 0));
+            TapedShears y = on(right, row(right, right, 0));
             Due.plan(y, 0, row(0, 0, right, 0));
             y.known(right);
             y.bed(10, right);
@@ -66,7 +66,7 @@ public final class TermsBoundaryTest {
 
     /** "WANTED lengths 0, 1, .. (at most 6)" */
     private static void atMostSixWantedLengths() {
-        CutShears x = new CutShears();
+        TapedShears x = new TapedShears();
         for (int number = 0; number < 6; number++) {
             int next = number;
             Due.index("sum", () -> x.sum(next));
@@ -83,7 +83,7 @@ public final class TermsBoundaryTest {
 
     /** "have a span (LOW to HIGH)": both ends belong to it. */
     private static void spansFromLowToHigh() {
-        CutShears x = on(30, row(31, 34, 0));
+        TapedShears x = on(30, row(31, 34, 0));
         Due.plan(x, 30);
         x.bar(31, 0);
         Due.plan(x, 0, row(0, 0, 31, 0));
@@ -101,7 +101,7 @@ public final class TermsBoundaryTest {
 
     /** "a RANK (0 .. 9)" */
     private static void ranksOfZeroToNine() {
-        CutShears x = on(50, row(50, 50, 8), row(50, 50, 0));
+        TapedShears x = on(50, row(50, 50, 8), row(50, 50, 0));
         for (int wrong : row(-1, 10, Integer.MIN_VALUE, Integer.MAX_VALUE)) {
             Due.unchanged(x, 0, 0, IllegalArgumentException.class, () -> x.want(50, 50, wrong));
         }
@@ -111,17 +111,17 @@ public final class TermsBoundaryTest {
 
     /** "A BAR has a length (100 at first), an ERROR (0 at first), a HEAD and a TAIL crop (0 at first)." */
     private static void barAtFirst() {
-        CutShears x = new CutShears();
+        TapedShears x = new TapedShears();
         x.want(100, 100, 0);
         Due.plan(x, 0, row(0, 0, 100, 0));
-        CutShears y = new CutShears();
+        TapedShears y = new TapedShears();
         y.want(101, 101, 0);
         Due.plan(y, 100);
     }
 
     /** "an ERROR (0 .. 50)" */
     private static void errorsOfZeroToFifty() {
-        CutShears x = on(100, row(50, 50, 0));
+        TapedShears x = on(100, row(50, 50, 0));
         for (int wrong : row(-1, 51, Integer.MIN_VALUE, Integer.MAX_VALUE)) {
             Due.unchanged(x, 0, 0, IllegalArgumentException.class, () -> x.bar(100, wrong));
         }
@@ -135,7 +135,7 @@ public final class TermsBoundaryTest {
 
     /** "a HEAD and a TAIL crop (0 .. 100 each)" */
     private static void cropsOfZeroToAHundred() {
-        CutShears x = on(200, row(40, 40, 0));
+        TapedShears x = on(200, row(40, 40, 0));
         for (int wrong : row(-1, 101, Integer.MIN_VALUE, Integer.MAX_VALUE)) {
             Due.unchanged(x, 0, 0, IllegalArgumentException.class, () -> x.crop(wrong, 0));
             Due.unchanged(x, 0, 0, IllegalArgumentException.class, () -> x.crop(0, wrong));
@@ -152,7 +152,7 @@ public final class TermsBoundaryTest {
 
     /** "the bar's length less the error, head and tail (0 when that is below 0)" */
     private static void roomBelowZeroIsZero() {
-        CutShears x = on(10, row(1, 1, 0));
+        TapedShears x = on(10, row(1, 1, 0));
         x.bar(10, 9);
         Due.plan(x, 0, row(0, 0, 1, 0));
         x.bar(10, 10);
@@ -174,7 +174,7 @@ public final class TermsBoundaryTest {
 
     /** "the rest behind the last one is the LOSS": with no piece that fits it is all of the room. */
     private static void roomJustTooShortForAPiece() {
-        CutShears x = on(20, row(21, 200, 9));
+        TapedShears x = on(20, row(21, 200, 9));
         Due.plan(x, 20);
         x.crop(3, 4);
         Due.plan(x, 13);
@@ -186,7 +186,7 @@ public final class TermsBoundaryTest {
 
     /** "pieces one behind the other from the head crop on" */
     private static void piecesFromTheHeadCropOn() {
-        CutShears x = on(101, row(20, 20, 0));
+        TapedShears x = on(101, row(20, 20, 0));
         x.crop(100, 0);
         Due.plan(x, 1);
         x.crop(41, 0);
@@ -245,7 +245,7 @@ public final class TermsBoundaryTest {
 
     /** "Only CUT pieces are made: cut() takes the plan's first piece that is not cut." */
     private static void onlyCutPiecesAreMade() {
-        CutShears x = on(100, row(60, 60, 1), row(40, 40, 1));
+        TapedShears x = on(100, row(60, 60, 1), row(40, 40, 1));
         Due.is("sum(0)", x.sum(0), 0);
         Due.is("at(0)", x.at(0), -1);
         Due.index("cutAt(0, 0)", () -> x.cutAt(0, 0));
@@ -260,7 +260,7 @@ public final class TermsBoundaryTest {
 
     /** "what is not cut is planned anew on what is left behind the cuts": the cut ones stay, come what may. */
     private static void plannedAnewBehindTheCuts() {
-        CutShears x = on(100, row(40, 40, 0));
+        TapedShears x = on(100, row(40, 40, 0));
         x.cut();
         x.want(50, 50, 9);
         Due.plan(x, 10, row(0, 0, 40, 1), row(1, 40, 50, 0));
@@ -275,7 +275,7 @@ public final class TermsBoundaryTest {
 
     /** The same sentence with nothing left, or with too little for a piece. */
     private static void nothingLeftBehindTheCuts() {
-        CutShears x = on(100, row(40, 40, 0));
+        TapedShears x = on(100, row(40, 40, 0));
         x.cut();
         x.crop(0, 60);
         Due.plan(x, 0, row(0, 0, 40, 1));
@@ -290,7 +290,7 @@ public final class TermsBoundaryTest {
 
     /** "A cut has its number, 0, 1, .. over all bars." */
     private static void cutNumbersOverAllBars() {
-        CutShears x = on(50, row(50, 50, 0));
+        TapedShears x = on(50, row(50, 50, 0));
         for (int c = 0; c < 4; c++) {
             x.bar(50, 0);
             Due.is("cut()", x.cut(), c);
@@ -302,7 +302,7 @@ public final class TermsBoundaryTest {
 
     /** "THE BED has PLACES (10 at first), each for pieces of up to a LONGEST (200)." */
     private static void bedAtFirst() {
-        CutShears x = on(200, row(200, 200, 0), row(1, 1, 0));
+        TapedShears x = on(200, row(200, 200, 0), row(1, 1, 0));
         Due.is("cut() of 200 steps", x.cut(), 0);
         x.bar(10, 0);
         for (int place = 1; place < 10; place++) {
@@ -315,7 +315,7 @@ public final class TermsBoundaryTest {
 
     /** "a piece that is cut lies at the lowest free place": places that came free are used again. */
     private static void lowestFreePlace() {
-        CutShears x = on(100, row(10, 10, 0), row(45, 45, 0));
+        TapedShears x = on(100, row(10, 10, 0), row(45, 45, 0));
         x.bed(3, 200);
         Due.plan(x, 0, row(0, 0, 10, 0), row(1, 10, 45, 0), row(1, 55, 45, 0));
         Due.is("cut()", x.cut(), 0);
@@ -334,7 +334,7 @@ public final class TermsBoundaryTest {
 
     /** "with none free .. it goes to the side (no place)" */
     private static void noPlaceFree() {
-        CutShears x = on(100, row(1, 1, 0));
+        TapedShears x = on(100, row(1, 1, 0));
         x.bed(1, 200);
         Due.is("cut()", x.cut(), 0);
         Due.is("cut()", x.cut(), -1);
@@ -349,7 +349,7 @@ public final class TermsBoundaryTest {
 
     /** "or too long, it goes to the side": by one step, though places are free. */
     private static void tooLongForThePlaces() {
-        CutShears x = on(60, row(19, 21, 0));
+        TapedShears x = on(60, row(19, 21, 0));
         x.bed(20, 20);
         Due.plan(x, 0, row(0, 0, 19, 0), row(0, 19, 20, 0), row(0, 39, 21, 0));
         Due.is("shorter by one", x.cut(), 0);
@@ -363,7 +363,7 @@ public final class TermsBoundaryTest {
 
     /** "takes so many pieces of it from the bed .. when there are as many" */
     private static void bundleWithAsMany() {
-        CutShears x = on(100, row(20, 20, 0), row(40, 40, 0));
+        TapedShears x = on(100, row(20, 20, 0), row(40, 40, 0));
         x.bed(4, 200);
         Due.plan(x, 0, row(0, 0, 20, 0), row(1, 20, 40, 0), row(1, 60, 40, 0));
         x.cut();
@@ -380,7 +380,7 @@ public final class TermsBoundaryTest {
 
     /** "(the first cut first)": by the number of the cut, not by the place, and over bars. */
     private static void bundleFirstCutFirst() {
-        CutShears x = on(4, row(1, 1, 0));
+        TapedShears x = on(4, row(1, 1, 0));
         x.bed(2, 200);
         x.cut();
         x.cut();
